@@ -32,7 +32,8 @@ public final class ThingStream {
     private static final int DEEPEST = 10;
     private static final int[] HIGHEST_LIMITS = {MOST_BYTES, LONGEST_ROW, MOST_READ, DEEPEST};
 
-    // 114, the number, the mark and the number of fields: no description has fewer bytes of its own.
+    // 114, the number, the mark and the number of fields: no description has fewer bytes of its own,
+    // so that a stream always ends before it has more descriptions than the reader has room for.
     private static final int LEAST_DESCRIPTION = 7;
     private static final int MOST_DESCRIPTIONS = MOST_BYTES / LEAST_DESCRIPTION;
 
@@ -391,7 +392,9 @@ public final class ThingStream {
             int thing = count;
             shapes[thing] = NONE;
             lengths[thing] = length;
-            Arrays.fill(values, firstSlot(thing), firstSlot(thing) + length, NONE);
+            for (int k = 0; k < length; k++) {
+                values[firstSlot(thing) + k] = NONE;
+            }
             count++;
             return thing;
         }
@@ -720,7 +723,7 @@ public final class ThingStream {
             }
         }
 
-        /** A description whose shape's number is below the given one, or NONE; parents come by calling itself. */
+        /** A description, or NONE; that a parent's number must be lower keeps the calls of itself few. */
         private int readDescription(int below) {
             int start = place;
             switch (nextByte()) {

@@ -5,7 +5,8 @@ import java.util.TreeMap;
 /** All promises: the same calls, chosen by fixed seeds, on the class and on the oracle. */
 public final class OracleTest {
     private static final int RUNS = 4000;
-    private static final int CALLS = 512;
+    // With the questions behind each step a run has more than the 512 calls of the document: the class counts none.
+    private static final int STEPS = 64;
     private static final int[] TAGS = {112, 113, 114, 115, 117, 172, 237, 111, 116, 118};
 
     private final Random random;
@@ -25,7 +26,7 @@ public final class OracleTest {
         for (int seed = 0; seed < RUNS; seed++) {
             OracleTest test = new OracleTest(seed, outcomes);
             test.makeShapes();
-            for (int k = 0; k < CALLS / 8; k++) {
+            for (int k = 0; k < STEPS; k++) {
                 test.step();
             }
         }

@@ -25,6 +25,8 @@ public final class ReadTest {
         hiddenLinksCount();
         whatThrowsLeavesThings();
         positionOfTheLatestRead();
+        handlesBeginAnew();
+        manyDescriptions();
         Check.done();
     }
 
@@ -122,6 +124,8 @@ public final class ReadTest {
 
     private static void handlesOfDescriptions() {
         Check.reads("no handle yet", shaped(172, 237, 115, 113, 0, 0), "wrong at 4");
+        Check.reads("of the first description", shaped(172, 237, 115, 114, 3, 0, 0, 0, 9, 1, 1, 4, 112, 115, 113, 0, 0, 112),
+            "2 at -1");
         int[] two = {172, 237, 117, 2, 115, 114, 3, 0, 0, 0, 9, 0, 112, 115, 113, 0, 1};
         Check.reads("of a description", shaped(two), "3 at -1");
         two[16] = 0;
@@ -469,6 +473,45 @@ public final class ReadTest {
             all.append("; ");
         }
         return all.toString();
+    }
+
+    private static void handlesBeginAnew() {
+        ThingStream x = shaped(172, 237, 117, 2, 115, 114, 3, 0, 0, 0, 9, 0, 112, 117, 0);
+        Check.reads("handles 0 to 3", x, "3 at -1");
+        Check.fill(x, 172, 237, 113, 0, 0);
+        Check.reads("a thing's handle of the read before", x, "wrong at 3");
+        Check.fill(x, 172, 237, 115, 113, 0, 1);
+        Check.reads("a description's handle of the read before", x, "wrong at 4");
+    }
+
+    /** 22 records, each with six descriptions of its own: as many as 1000 bytes have room for. */
+    private static void manyDescriptions() {
+        ThingStream x = filled(172, 237, 117, 5);
+        x.shape(1, 5, -1, 0);
+        for (int row = 0; row < 5; row++) {
+            x.put(x.at(-1), 117);
+            x.put(x.at(-1), row < 4 ? 5 : 2);
+            for (int k = row < 4 ? 5 : 2; k > 0; k--) {
+                addRecord(x);
+            }
+        }
+        for (int round = 0; round < 3; round++) {
+            Check.reads("132 descriptions", x, "28 at -1");
+            Check.same("the last one's shape", x.thing(1, 27, 0), 5);
+            Check.same("where it is", x.goes(1, 25, 1), 27);
+        }
+    }
+
+    private static void addRecord(ThingStream x) {
+        x.put(x.at(-1), 115);
+        for (int number = 5; number >= 0; number--) {
+            x.put(x.at(-1), 114);
+            x.put(x.at(-1), number);
+            for (int k = 0; k < 5; k++) {
+                x.put(x.at(-1), 0);
+            }
+        }
+        x.put(x.at(-1), 112);
     }
 
     private static void positionOfTheLatestRead() {

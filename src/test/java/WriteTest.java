@@ -8,6 +8,7 @@ public final class WriteTest {
         writesDescriptionsOnce();
         writesWhatIsNotThere();
         writesUpTo1000Bytes();
+        everyFieldHasItsOwnValue();
         writesFarMoreThan1000Bytes();
         writesTheLongestChain();
         putsAndCuts();
@@ -136,12 +137,30 @@ public final class WriteTest {
         Check.same("the last byte", x.at(999), 0);
         Check.reads("read of 1000", x, "11 at -1");
         Check.same("a value of it", x.get(1, 1, 5, 3), -1);
+        Check.same("a value beside it", x.get(1, 1, 5, 2), 0);
         int more = x.row(0);
         x.link(8, 0, more);
         Check.same("1001 bytes", x.write(0), 0);
         Check.same("the stream is empty", x.at(-1), 0);
         Check.same("no byte", x.at(0), -1);
         Check.same("a small one behind it", x.write(more), 4);
+    }
+
+    private static void everyFieldHasItsOwnValue() {
+        ThingStream x = withBigShapes();
+        x.build(5);
+        x.build(5);
+        for (int k = 0; k < 48; k++) {
+            Check.yes("set", x.set(k / 24, k / 4 % 6, k % 4, 1000 + k));
+        }
+        for (int thing = 0; thing < 2; thing++) {
+            Check.same("write", x.write(thing), 2 + 1 + 6 * 15 + 1 + 24 * 8);
+            Check.reads("read", x, "1 at -1");
+            for (int k = 0; k < 24; k++) {
+                Check.same("value of side 0", x.get(0, thing, k / 4, k % 4), 1000 + 24 * thing + k);
+                Check.same("value of side 1", x.get(1, 0, k / 4, k % 4), 1000 + 24 * thing + k);
+            }
+        }
     }
 
     private static void writesFarMoreThan1000Bytes() {
