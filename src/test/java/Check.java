@@ -1,3 +1,6 @@
+import java.util.function.Predicate;
+import java.util.function.ToLongFunction;
+
 /** Counts answers that are not as due; every test ends with done(). */
 final class Check {
     private static int wrong = 0;
@@ -27,39 +30,27 @@ final class Check {
         same(what, got ? 1 : 0, 0);
     }
 
-    /** Empties the stream and puts these bytes in it. */
-    static void fill(ThingStream x, int... bytes) {
-        x.cut(0);
-        for (int k = 0; k < bytes.length; k++) {
-            x.put(k, bytes[k]);
-        }
+    static void reads(String what, Run x, String due) {
+        same("read of " + what, x.read(), due);
     }
 
-    static String bytes(ThingStream x) {
-        StringBuilder all = new StringBuilder();
-        for (int k = 0; k < x.at(-1); k++) {
-            all.append(k == 0 ? "" : " ").append(x.at(k));
-        }
-        return all.toString();
+    /** The call answers false and leaves all as it was. */
+    static void refused(String what, Run x, Predicate<ThingStream> call) {
+        leaves(what, x, 0, t -> call.test(t) ? 1 : 0);
     }
 
-    /** What read does, with the position behind it: "3 at -1", "wrong at 5", "strange at 3", "filtered at 2". */
-    static String read(ThingStream x) {
-        String answer;
-        try {
-            answer = String.valueOf(x.read());
-        } catch (IllegalArgumentException e) {
-            answer = "wrong";
-        } catch (IllegalStateException e) {
-            answer = "strange";
-        } catch (UnsupportedOperationException e) {
-            answer = "filtered";
-        }
-        return answer + " at " + x.position();
+    /** The call answers this and leaves all as it was. */
+    static void leaves(String what, Run x, long due, ToLongFunction<ThingStream> call) {
+        String before = State.of(x);
+        same(what, x.change(call), due);
+        same("the state behind " + what, State.of(x), before);
     }
 
-    static void reads(String what, ThingStream x, String due) {
-        same(what, read(x), due);
+    /** A read that throws leaves all but the position as it was. */
+    static void throwsAndLeaves(String what, Run x, String due) {
+        String before = State.withoutPosition(x);
+        reads(what, x, due);
+        same("the state behind a read of " + what, State.withoutPosition(x), before);
     }
 
     static void done() {

@@ -249,7 +249,7 @@ final class Oracle {
         return true;
     }
 
-    /** As Check.read tells it. */
+    /** As Run.read tells it. */
     String read() {
         try {
             List<Thing> found = new Reading().all();
@@ -409,6 +409,14 @@ final class Oracle {
     }
 
     /** For a test that makes streams which side 1 can read. */
+    boolean hasShape(int shape) {
+        return shapes.get(1).containsKey(shape);
+    }
+
+    int shapeCount() {
+        return shapes.get(1).size();
+    }
+
     int markOf(int shape) {
         Shape here = shapes.get(1).get(shape);
         return here == null ? 0 : here.mark;

@@ -1,19 +1,25 @@
+import java.util.ArrayList;
+import java.util.List;
 import java.util.Map;
 import java.util.Random;
 import java.util.TreeMap;
+import java.util.function.Consumer;
 
 /** All promises: the same calls, chosen by fixed seeds, on the class and on the oracle. */
 public final class OracleTest {
-    private static final int RUNS = 4000;
-    // With the questions behind each step a run has more than the 512 calls of the document: the class counts none.
-    private static final int STEPS = 64;
+    private static final int RUNS = 6000;
+    private static final int LONG_STREAMS = 2000;
+    // A run ends before it has the 512 calls of the document; the room is for the calls of its last step.
+    private static final int MOST_CALLS = 500;
+    private static final int CALLS_OF_A_STEP = 60;
     private static final int[] TAGS = {112, 113, 114, 115, 117, 172, 237, 111, 116, 118};
 
     private final Random random;
-    private final ThingStream x = new ThingStream();
     private final Oracle oracle = new Oracle();
     private final Map<String, Integer> outcomes;
     private final String run;
+    private final List<Consumer<Run>> madeOnSide1 = new ArrayList<>();
+    private Run x = new Run();
 
     private OracleTest(int seed, Map<String, Integer> outcomes) {
         random = new Random(seed);
@@ -26,14 +32,35 @@ public final class OracleTest {
         for (int seed = 0; seed < RUNS; seed++) {
             OracleTest test = new OracleTest(seed, outcomes);
             test.makeShapes();
-            for (int k = 0; k < STEPS; k++) {
+            while (test.x.changeCount() < MOST_CALLS - CALLS_OF_A_STEP) {
                 test.step();
             }
+        }
+        for (int seed = RUNS; seed < RUNS + LONG_STREAMS; seed++) {
+            new OracleTest(seed, outcomes).readLongStream();
         }
         for (String outcome : new String[] {"right", "wrong", "strange", "filtered"}) {
             Check.yes("enough reads that are " + outcome, outcomes.getOrDefault(outcome, 0) > 1000);
         }
         Check.done();
+    }
+
+    /** The stream of a new object has up to 1000 bytes, which takes most of its calls: side 0 is not compared. */
+    private void readLongStream() {
+        makeShapes();
+        int[] bytes = new Grammar(500, oneOf(4)).bytes();
+        x = Run.of(bytes);
+        for (int b : bytes) {
+            oracle.put(oracle.at(-1), b);
+        }
+        madeOnSide1.forEach(call -> call.accept(x));
+        compareStreams();
+        readAndCompare();
+        x.limit(2, 20);
+        oracle.limit(2, 20);
+        readAndCompare();
+        spoil();
+        readAndCompare();
     }
 
     private int below(int bound) {
@@ -81,10 +108,16 @@ public final class OracleTest {
 
     private void shape(int side, int shape, int parent, int mark) {
         same("shape", x.shape(side, shape, parent, mark), oracle.shape(side, shape, parent, mark));
+        if (side == 1) {
+            madeOnSide1.add(y -> y.shape(1, shape, parent, mark));
+        }
     }
 
     private void field(int side, int shape, int name, int kind) {
         same("field", x.field(side, shape, name, kind), oracle.field(side, shape, name, kind));
+        if (side == 1) {
+            madeOnSide1.add(y -> y.field(1, shape, name, kind));
+        }
     }
 
     private void step() {
@@ -94,7 +127,7 @@ public final class OracleTest {
             case 2: case 3: tieThings(); break;
             case 4: case 5: case 6: write(about(x.things(0))); readAndCompare(); break;
             case 7: case 8: spoil(); readAndCompare(); break;
-            case 9: case 10: case 11: new Grammar().fill(); readAndCompare(); break;
+            case 9: case 10: case 11: new Grammar(60, oneOf(2)).fill(); readAndCompare(); break;
             case 12: case 13: limits(); break;
             case 14: cutOrAdd(); readAndCompare(); break;
             default: ask();
@@ -124,7 +157,7 @@ public final class OracleTest {
     }
 
     private void tieThings() {
-        for (int k = 0; k < 60; k++) {
+        for (int k = 0; k < 25; k++) {
             int thing = about(Math.max(0, x.things(0) - 1));
             int to = about(Math.max(0, x.things(0) - 1));
             int shape = x.thing(0, thing, 0) >= 0 && oneOf(2) ? x.thing(0, thing, 0) : about(5);
@@ -177,8 +210,8 @@ public final class OracleTest {
     }
 
     private void readAndCompare() {
-        String got = Check.read(x);
-        Check.same(run + "read of " + Check.bytes(x), got, oracle.read());
+        String got = x.read();
+        Check.same(run + "read of " + x.bytes(), got, oracle.read());
         String kind = Character.isDigit(got.charAt(0)) ? "right" : got.substring(0, got.indexOf(' '));
         outcomes.merge(kind, 1, Integer::sum);
         compareThings(1);
@@ -213,71 +246,100 @@ public final class OracleTest {
 
     /** Streams that writing never gives: descriptions told twice, parents of other numbers, unused handles. */
     private final class Grammar {
-        private final int[] told = new int[600];
-        private int handles = 0;
-        private int left = 60;
+        private final boolean faulty;
+        private final List<Integer> bytes = new ArrayList<>();
+        // For each handle the number of its description, or -1 for a thing.
+        private final List<Integer> told = new ArrayList<>();
+        // The kinds of the fields of a description's chain, as text: each one's behind its parents'.
+        private final Map<Integer, String> kindsByHandle = new TreeMap<>();
+        private int valuesLeft;
+        private int thingsLeft;
 
-        void fill() {
-            same("cut", x.cut(0), oracle.cut(0));
+        Grammar(int values, boolean faulty) {
+            this.faulty = faulty;
+            valuesLeft = values;
+            thingsLeft = faulty ? values : 40;
+        }
+
+        int[] bytes() {
             add(172);
             add(237);
             value(1);
+            return bytes.stream().limit(1000).mapToInt(b -> b & 255).toArray();
+        }
+
+        void fill() {
+            int[] all = bytes();
+            same("cut", x.cut(0), oracle.cut(0));
+            for (int k = 0; k < all.length && x.changeCount() < MOST_CALLS - 1; k++) {
+                put(k, all[k]);
+            }
             compareStreams();
         }
 
-        private void add(int b) {
-            put(x.at(-1), b);
+        private boolean fault(int n) {
+            return faulty && oneOf(n);
         }
 
-        private void handle() {
+        private void add(int b) {
+            bytes.add(b);
+        }
+
+        private void handle(int handle) {
             add(113);
-            int handle = handles == 0 || oneOf(15) ? below(handles + 2) : below(handles);
-            add(oneOf(50) ? 1 : 0);
+            add(handle >> 8);
             add(handle);
         }
 
         private void value(int depth) {
-            left--;
-            int what = left < 0 || depth > 11 ? below(2) : depth == 1 ? 2 + below(4) : below(6);
+            valuesLeft--;
+            boolean mayBeThing = valuesLeft >= 0 && thingsLeft > 0 && depth <= (faulty ? 11 : 10);
+            int what = !mayBeThing ? below(2) : depth == 1 ? 2 + below(4) : below(6);
             if (what == 0) {
                 add(112);
             } else if (what == 1) {
                 thingHandle();
-            } else if (what <= 3) {
-                add(117);
-                int length = below(6);
-                add(length);
-                told[handles++] = -1;
-                for (int k = 0; k < length; k++) {
-                    value(depth + 1);
-                }
+            } else if (what <= 3 || !faulty && oracle.shapeCount() == 0) {
+                row(depth);
             } else {
                 record(depth);
             }
         }
 
-        private void thingHandle() {
-            for (int k = 0; k < 10; k++) {
-                int handle = below(handles + 1);
-                if (handle < handles && told[handle] == -1) {
-                    add(113);
-                    add(0);
-                    add(handle);
-                    return;
-                }
-            }
-            if (oneOf(10)) {
-                handle();
-            } else {
-                add(112);
+        private void row(int depth) {
+            int length = below(6);
+            add(117);
+            add(fault(60) ? below(256) : length);
+            giveThingHandle();
+            for (int k = 0; k < length; k++) {
+                value(depth + 1);
             }
         }
 
-        /** The kinds of the fields of a record's chain are kept as text: each description's behind its parents'. */
+        private void giveThingHandle() {
+            told.add(-1);
+            thingsLeft--;
+        }
+
+        private void thingHandle() {
+            if (fault(60)) {
+                handle(oneOf(2) ? below(told.size() + 2) : below(65536));
+                return;
+            }
+            for (int k = 0; k < 10; k++) {
+                int handle = below(told.size() + 1);
+                if (handle < told.size() && told.get(handle) == -1) {
+                    handle(handle);
+                    return;
+                }
+            }
+            add(112);
+        }
+
         private void record(int depth) {
             add(115);
-            String kinds = description(6, false);
-            told[handles++] = -1;
+            String kinds = description(6, true);
+            giveThingHandle();
             for (int k = 0; k < kinds.length(); k++) {
                 int kind = kinds.charAt(k) - '0';
                 for (int n = kind == 4 ? 0 : 1 << kind; n > 0; n--) {
@@ -289,36 +351,47 @@ public final class OracleTest {
             }
         }
 
-        private final Map<Integer, String> kindsByHandle = new TreeMap<>();
-
-        private String description(int below, boolean mayBeNone) {
-            if (mayBeNone && (below == 0 || oneOf(3)) || oneOf(200)) {
+        private String description(int below, boolean ofRecord) {
+            if (!ofRecord && (below == 0 || oneOf(3)) || fault(200)) {
                 add(112);
                 return "";
             }
             if (oneOf(2)) {
-                for (int handle = below(handles + 1); handle < handles; handle++) {
-                    if (told[handle] >= 0 && (told[handle] < below || oneOf(10))) {
-                        add(113);
-                        add(0);
-                        add(handle);
+                for (int handle = below(told.size() + 1); handle < told.size(); handle++) {
+                    if (mayName(told.get(handle), below, ofRecord)) {
+                        handle(handle);
                         return kindsByHandle.getOrDefault(handle, "");
                     }
                 }
             }
-            return newDescription(below);
+            return newDescription(below, ofRecord);
         }
 
-        private String newDescription(int below) {
-            int number = oneOf(60) ? below(8) : below(Math.max(1, below));
+        private boolean mayName(int number, int below, boolean ofRecord) {
+            return number >= 0 && (number < below || fault(10)) && (!ofRecord || faulty || oracle.hasShape(number));
+        }
+
+        private int chooseNumber(int below, boolean ofRecord) {
+            if (fault(60)) {
+                return below(8);
+            }
+            int number = below(Math.max(1, below));
+            while (ofRecord && !faulty && !oracle.hasShape(number)) {
+                number = below(6);
+            }
+            return number;
+        }
+
+        private String newDescription(int below, boolean ofRecord) {
+            int number = chooseNumber(below, ofRecord);
             add(114);
             add(number);
-            int mark = oneOf(60) ? random.nextInt() : oracle.markOf(number);
+            int mark = fault(60) ? random.nextInt() : oracle.markOf(number);
             for (int k = 3; k >= 0; k--) {
                 add(mark >> 8 * k);
             }
             String fields = fields(number);
-            add(oneOf(200) ? 5 : fields.length() / 2);
+            add(fault(200) ? 5 : fields.length() / 2);
             StringBuilder kinds = new StringBuilder();
             for (int k = 0; k < fields.length(); k++) {
                 add(fields.charAt(k) - '0');
@@ -326,9 +399,9 @@ public final class OracleTest {
                     kinds.append(fields.charAt(k));
                 }
             }
-            int handle = handles;
-            told[handles++] = number;
-            String all = description(number, true) + kinds;
+            int handle = told.size();
+            told.add(number);
+            String all = description(number, false) + kinds;
             kindsByHandle.put(handle, all);
             return all;
         }
@@ -339,8 +412,8 @@ public final class OracleTest {
             for (int name = 0; name < 10 && inOrder.size() < 4; name++) {
                 int kind = oracle.kindOf(number, name);
                 if (kind >= 0 ? !oneOf(5) : oneOf(12)) {
-                    int told = kind < 0 || oneOf(100) ? below(5) : kind;
-                    int rank = oneOf(100) ? below(20) : name + (told == 4 ? 10 : 0);
+                    int told = kind < 0 || fault(100) ? below(5) : kind;
+                    int rank = fault(100) ? below(20) : name + (told == 4 ? 10 : 0);
                     inOrder.put(rank, name + "" + told);
                 }
             }
