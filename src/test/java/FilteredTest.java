@@ -11,6 +11,7 @@ public final class FilteredTest {
         handlesAndNoneAreNoThings();
         depthBeyondTheLimit();
         depthOfRecords();
+        depthOfRecordsAlone();
         depthIsOfTheFirstPlace();
         depthBeforeTheLength();
         thingsBeforeTheLength();
@@ -171,6 +172,20 @@ public final class FilteredTest {
         Check.throwsAndLeaves("a record in a row, two deep of one", x, "filtered at 5");
         x.limit(3, 0);
         Check.throwsAndLeaves("one deep of none", x, "filtered at 2");
+    }
+
+    private static void depthOfRecordsAlone() {
+        for (int depth = 9; depth <= 11; depth++) {
+            Run x = Made.shaped(172, 237, 115, 114, 3, 0, 0, 0, 9, 1, 1, 4, 112);
+            for (int k = 1; k < depth; k++) {
+                int[] next = {115, 113, 0, 0};
+                for (int b : next) {
+                    x.append(b);
+                }
+            }
+            x.append(112);
+            Check.reads("records " + depth + " deep", x, depth <= 10 ? depth + " at -1" : "filtered at 49");
+        }
     }
 
     /** What is linked to again, from deeper, is no deeper than where it stands; what stands beside is not deeper, too. */
